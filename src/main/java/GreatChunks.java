@@ -30,15 +30,12 @@ public final class GreatChunks {
     private final House house = new House();
     /** What is only tried or foretold happens here, so that the house itself stays as it is. */
     private final House trial = new House();
+    /** Null where none was kept. */
     private final House[] images = new House[MANY_IMAGES];
-    private final boolean[] imageKept = new boolean[MANY_IMAGES];
     private boolean standing = false;
     private int latestFault = 0;
 
     public GreatChunks() {
-        for (int k = 0; k < MANY_IMAGES; k++) {
-            images[k] = new House();
-        }
     }
 
     // ---- what is told
@@ -394,8 +391,10 @@ public final class GreatChunks {
         if (!standing) {
             return STATE;
         }
+        if (images[k] == null) {
+            images[k] = new House();
+        }
         images[k].become(house);
-        imageKept[k] = true;
         return 1;
     }
 
@@ -403,11 +402,10 @@ public final class GreatChunks {
         if (!isImage(k)) {
             return BAD;
         }
-        if (!imageKept[k]) {
+        if (images[k] == null) {
             return STATE;
         }
         house.become(images[k]);
-        standing = true;
         acts.forget();
         return 1;
     }
@@ -640,35 +638,33 @@ public final class GreatChunks {
         }
     }
 
-    /** The house as it was ahead of the latest acts, in a ring. */
+    /** The house as it was ahead of the latest acts, in a ring whose places are made once and used again. */
     private static final class Acts {
         private final House[] before = new House[MOST_ACTS];
         private int next = 0;
         int kept = 0;
-
-        Acts() {
-            for (int i = 0; i < MOST_ACTS; i++) {
-                before[i] = new House();
-            }
-        }
 
         void forget() {
             kept = 0;
         }
 
         void keep(House house) {
+            if (before[next] == null) {
+                before[next] = new House();
+            }
             before[next].become(house);
             next = next + 1 < MOST_ACTS ? next + 1 : 0;
             kept = Math.min(kept + 1, MOST_ACTS);
         }
 
         boolean takeBack(House house) {
-            if (kept == 0) {
+            int latest = next > 0 ? next - 1 : MOST_ACTS - 1;
+            if (kept == 0 || before[latest] == null) {
                 return false;
             }
-            next = next > 0 ? next - 1 : MOST_ACTS - 1;
+            next = latest;
             kept--;
-            house.become(before[next]);
+            house.become(before[latest]);
             return true;
         }
     }

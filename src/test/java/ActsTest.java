@@ -159,5 +159,20 @@ public final class ActsTest {
         c.due("sums(1)", x.sums(1), 0);
         c.due("chunk(0, 0)", x.chunk(0, 0), Checks.BAD);
         c.due("server(0, 2)", x.server(0, 2), 0);
+        sinceWhenComesBack();
+    }
+
+    private static void sinceWhenComesBack() {
+        GreatChunks x = Checks.with("h3,2,4,5,9;f1;");
+        x.tick(1);
+        x.remove(0);
+        x.tick(2);
+        x.bring(0);
+        x.remove(0);
+        c.due("hidden anew", x.file(0, 3), 3);
+        x.undo();
+        c.due("undo()", x.undo(), 3);
+        c.due("hidden since", x.file(0, 3), 1);
+        c.due("bring(0)", x.bring(0), 1);
     }
 }

@@ -176,5 +176,14 @@ public final class LookTest {
         for (int what = 0; what < 7; what++) {
             c.due("then sums(" + what + ")", x.sums(what), then[what]);
         }
+        x.spoil(0, 1);
+        x.put(0, 1, 'y');
+        c.due("stale at all servers", x.sums(4), 2);
+        x = Checks.with("h2,2,4,5,2;f4;f1;");
+        Checks.append(x, 0, "abc");
+        x.remove(0);
+        c.due("the first chunk is forgotten", x.sums(2), 1);
+        c.due("copies of forgotten chunks", x.server(0, 4), 1);
+        c.due("their letters count", x.sums(5), 6);
     }
 }

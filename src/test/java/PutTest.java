@@ -128,5 +128,22 @@ public final class PutTest {
         x.down(2);
         c.due("shared and no able server", x.put(0, 4, 'x'), Checks.LOST);
         c.due("shares as they were", x.chunk(1, 1), 2);
+        ownedBehindTheFirst();
+    }
+
+    private static void ownedBehindTheFirst() {
+        GreatChunks x = Checks.with("h2,1,4,5,2;f1;");
+        for (int i = 0; i < 4; i++) {
+            Checks.append(x, 0, "abcd");
+        }
+        x.both(0, 1);
+        c.due("put in the third", x.put(1, 9, 'z'), 1);
+        int[] row = {0, 1, 4, 3};
+        for (int k = 0; k < 4; k++) {
+            c.due("file(0, 10 and " + k + ")", x.file(0, 10 + k), k);
+            c.due("file(1, 10 and " + k + ")", x.file(1, 10 + k), row[k]);
+        }
+        c.due("found in one", Checks.find(x, 0, "b"), 4);
+        c.due("found in the other", Checks.find(x, 1, "b"), 3);
     }
 }

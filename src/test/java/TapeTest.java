@@ -9,6 +9,7 @@ public final class TapeTest {
         faults();
         whatStays();
         whatComesAnew();
+        nothingOfTheOld();
         c.end();
     }
 
@@ -176,5 +177,48 @@ public final class TapeTest {
         c.due("restore(1)", x.restore(1), 1);
         c.due("sums(0) of the image", x.sums(0), 7);
         c.due("count(0) of the image", x.count(0), 3);
+    }
+
+    /** A house that is read behind much else is like one that is read first, in all that comes of it. */
+    private static void nothingOfTheOld() {
+        c.about("promise 3, nothing of the old house");
+        GreatChunks x = Checks.with("h5,3,9,20,9;s4;s4;s4;s4;s4;f1;f1;f1;f1;f1;f1;");
+        for (int f = 0; f < 6; f++) {
+            Checks.append(x, f, "zzzzzzzzz");
+            Checks.append(x, f, "yyyyyyyyy");
+        }
+        x.spoil(0, 9);
+        x.spoil(1, 9);
+        x.down(4);
+        x.tick(19);
+        x.remove(3);
+        x.drawn(12, 77, 0);
+        x.mends();
+        String text = "h4,2,6,5,2;s2;f1;";
+        GreatChunks fresh = Checks.with(text);
+        c.due("house()", Checks.house(x, text), 1);
+        for (int turn = 0; turn < 4; turn++) {
+            sameToLookAt(x, fresh);
+            x.create(turn, 1);
+            fresh.create(turn, 1);
+            c.due("left(" + turn + ")", x.left(turn), fresh.left(turn));
+            c.due("append to " + turn, Checks.append(x, turn, "ab"), Checks.append(fresh, turn, "ab"));
+        }
+        sameToLookAt(x, fresh);
+    }
+
+    private static void sameToLookAt(GreatChunks x, GreatChunks fresh) {
+        for (int what = 0; what < 7; what++) {
+            c.due("sums(" + what + ")", x.sums(what), fresh.sums(what));
+            for (int s = 0; s < 4; s++) {
+                c.due("server(" + s + ", " + what + ")", x.server(s, what), fresh.server(s, what));
+                c.due("chunk(" + s + ", " + what + ")", x.chunk(s, what), fresh.chunk(s, what));
+            }
+        }
+        for (int f = 0; f < 6; f++) {
+            for (int what = 0; what < 14; what++) {
+                c.due("file(" + f + ", " + what + ")", x.file(f, what), fresh.file(f, what));
+            }
+        }
     }
 }
