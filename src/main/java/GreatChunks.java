@@ -35,6 +35,7 @@ public final class GreatChunks {
     private boolean standing = false;
     private int latestFault = 0;
 
+    /** Without a house: its fields say so. */
     public GreatChunks() {
     }
 
@@ -433,13 +434,8 @@ public final class GreatChunks {
     }
 
     private int refusalOfRecord(int file, int letters) {
-        if (!standing) {
-            return STATE;
-        }
-        if (!isFile(file) || !within(letters, 1, house.size)) {
-            return BAD;
-        }
-        return house.files.is(file, Files.THERE) ? DONE : STATE;
+        boolean isRecord = within(letters, 1, house.size);
+        return standing && !isRecord ? BAD : refusalOfFile(file);
     }
 
     private int refusalOfFile(int file) {

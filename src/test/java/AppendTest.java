@@ -197,6 +197,14 @@ public final class AppendTest {
         c.dueCells(x, 0, 3, "abc_");
         c.dueCells(x, 0, 4, "abc.");
         c.dueCells(x, 1, 4, "....");
+        x = Checks.with("h2,2,4,5,2;f1;");
+        Checks.append(x, 0, "abc");
+        x.spoil(1, 2);
+        c.due("a new chunk ahead of each try", Checks.append(x, 0, "def"), 12);
+        c.dueCells(x, 0, 0, "abc_");
+        c.dueCells(x, 0, 2, "def_");
+        c.dueCells(x, 1, 2, "..._");
+        c.dueCells(x, 1, 3, "def.");
     }
 
     private static void downOther() {
