@@ -1501,14 +1501,19 @@ public final class GreatChunks {
 
         int firstToMend() {
             for (int c = 0; c < chunks.made; c++) {
-                int bits = able(c);
-                boolean hasGiver = bits != 0 && !chunks.isForgotten(c);
-                boolean hasTaker = (servers.upBits() & ~bits) != 0;
-                if (hasGiver && hasTaker && Integer.bitCount(bits) < mostWanted(c)) {
+                if (lacksCopy(c)) {
                     return c;
                 }
             }
             return NOBODY;
+        }
+
+        /** Whether a chunk has too few able servers, one to give and one to take a copy. */
+        boolean lacksCopy(int chunk) {
+            int bits = able(chunk);
+            boolean hasGiver = bits != 0 && !chunks.isForgotten(chunk);
+            boolean hasTaker = (servers.upBits() & ~bits) != 0;
+            return hasGiver && hasTaker && Integer.bitCount(bits) < mostWanted(chunk);
         }
 
         private int mostWanted(int chunk) {
@@ -1550,16 +1555,14 @@ public final class GreatChunks {
             return fewest == NONE || fewest == 0 ? NONE : fewest - 1;
         }
 
+        /** A copy that comes changes nothing for the chunks ahead of its own, so that none is looked at again. */
         static int mendAll(House trial) {
             int times = 0;
-            // Each mend makes one more of these places able, so there are never more.
-            for (int turn = 0; turn < MOST_CHUNKS * MOST_SERVERS; turn++) {
-                int chunk = trial.firstToMend();
-                if (chunk == NOBODY) {
-                    return times;
+            for (int c = 0; c < trial.chunks.made; c++) {
+                for (int turn = 0; turn < MOST_SERVERS && trial.lacksCopy(c); turn++) {
+                    trial.addCopy(c);
+                    times++;
                 }
-                trial.addCopy(chunk);
-                times++;
             }
             return times;
         }

@@ -80,6 +80,47 @@ final class Checks {
         return x.part(server, chunk, 0) == NONE ? "-" : text.toString();
     }
 
+    /** All that can be seen of an object without changing it, but for the tape and the fault. */
+    static String look(GreatChunks x) {
+        StringBuilder text = new StringBuilder();
+        for (int what = 0; what < 7; what++) {
+            text.append(what == 6 ? 0 : x.count(what)).append(' ').append(x.sums(what)).append(' ');
+            text.append(what > 0 && what < 6 ? x.target(what) : 0).append('\n');
+        }
+        for (int s = 0; s < x.count(0); s++) {
+            for (int what = 0; what < 7; what++) {
+                text.append(x.server(s, what)).append(' ');
+            }
+        }
+        for (int n = 0; n < x.count(4); n++) {
+            text.append("\nchunk ").append(n).append(':');
+            for (int what = 0; what < 7; what++) {
+                text.append(' ').append(x.chunk(n, what));
+            }
+            for (int s = 0; s < x.count(0); s++) {
+                text.append(' ').append(x.part(s, n, 0)).append('/').append(x.part(s, n, 1)).append(cells(x, s, n));
+            }
+        }
+        for (int f = 0; f < 6; f++) {
+            text.append("\nfile ").append(f).append(':');
+            for (int what = 0; what < 14; what++) {
+                text.append(' ').append(x.file(f, what));
+            }
+            text.append(' ').append(x.left(f)).append(' ').append(x.strength(f));
+            text.append(' ').append(x.odds(f, 3, 0)).append(' ').append(x.odds(f, 3, 1));
+        }
+        return text.append("\nmends ").append(x.mends()).append(" drawn ").append(x.drawn(12, 4711, 2)).toString();
+    }
+
+    /** Whether two objects look alike now, and behind each undo till no act is left. */
+    void dueAlike(String call, GreatChunks x, GreatChunks y) {
+        due(call + ": looks alike", look(x).equals(look(y)) ? 1 : 0, 1);
+        for (int turn = 0; turn < 7; turn++) {
+            due(call + ": undo() alike", x.undo(), y.undo());
+            due(call + ": looks alike behind undo", look(x).equals(look(y)) ? 1 : 0, 1);
+        }
+    }
+
     void dueCells(GreatChunks x, int server, int chunk, String want) {
         String got = cells(x, server, chunk);
         due("cells at " + server + " of chunk " + chunk + " are " + got + " for " + want, got.equals(want) ? 1 : 0, 1);
