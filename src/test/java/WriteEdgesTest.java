@@ -75,6 +75,7 @@ public final class WriteEdgesTest {
         c.due("part(0, 29, 10)", x.part(0, 29, 10), 'a');
         c.due("part(0, 30, 10)", x.part(0, 30, 10), Checks.BAD);
         c.due("drawn(12, 1, 1)", x.drawn(12, 1, 1), 30);
+        c.due("target(1) tells the places yet", x.target(1), 3);
     }
 
     private static void newAtThirty() {
