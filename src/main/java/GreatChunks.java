@@ -183,7 +183,7 @@ public final class GreatChunks {
         if (!house.servers.has(server)) {
             return BAD;
         }
-        if (!house.servers.isUp[server]) {
+        if (!house.servers.hasUp(server)) {
             return STATE;
         }
         acts.keep(house);
@@ -210,7 +210,7 @@ public final class GreatChunks {
             return BAD;
         }
         switch (what) {
-            case 0: return house.servers.isUp[server] ? 1 : 0;
+            case 0: return house.servers.hasUp(server) ? 1 : 0;
             case 1: return house.servers.roomOf(server);
             case 2: return house.copies.manyAt(server);
             case 3: return house.staleAt(server);
@@ -452,11 +452,11 @@ public final class GreatChunks {
         if (!house.servers.has(server)) {
             return BAD;
         }
-        if (house.servers.isUp[server] != from) {
+        if (house.servers.hasUp(server) != from) {
             return STATE;
         }
         acts.keep(house);
-        house.servers.isUp[server] = to;
+        house.servers.turn(server, to);
         return house.servers.manyUp();
     }
 
@@ -667,24 +667,22 @@ public final class GreatChunks {
 
     private static final class Servers {
         int many = 0;
+        int upBits = 0;
         final int[] room = new int[MOST_SERVERS];
         final int[] spoilt = new int[MOST_SERVERS];
-        final boolean[] isUp = new boolean[MOST_SERVERS];
 
         void open(int howMany) {
             many = Math.min(howMany, MOST_SERVERS);
-            for (int s = 0; s < MOST_SERVERS; s++) {
-                room[s] = 1;
-                spoilt[s] = 0;
-                isUp[s] = s < many;
-            }
+            upBits = (1 << many) - 1;
+            Arrays.fill(room, 1);
+            Arrays.fill(spoilt, 0);
         }
 
         void become(Servers other) {
             many = other.many;
+            upBits = other.upBits;
             System.arraycopy(other.room, 0, room, 0, MOST_SERVERS);
             System.arraycopy(other.spoilt, 0, spoilt, 0, MOST_SERVERS);
-            System.arraycopy(other.isUp, 0, isUp, 0, MOST_SERVERS);
         }
 
         boolean has(int server) {
@@ -692,23 +690,22 @@ public final class GreatChunks {
         }
 
         boolean hasUp(int server) {
-            return has(server) && isUp[server];
+            return has(server) && isIn(upBits, server);
+        }
+
+        void turn(int server, boolean toUp) {
+            if (has(server)) {
+                int bit = 1 << server;
+                upBits = toUp ? upBits | bit : upBits & ~bit;
+            }
         }
 
         int roomOf(int server) {
             return server >= 0 && server < many ? room[server] : 1;
         }
 
-        int upBits() {
-            int bits = 0;
-            for (int s = 0; s < many; s++) {
-                bits |= isUp[s] ? 1 << s : 0;
-            }
-            return bits;
-        }
-
         int manyUp() {
-            return Integer.bitCount(upBits());
+            return Integer.bitCount(upBits);
         }
 
         /** Whether a server that is to write now fails; each failure uses up one. */
@@ -1030,11 +1027,12 @@ public final class GreatChunks {
         }
 
         boolean owns(int file, int itsChunk) {
-            boolean found = false;
             for (int k = 0; k < MOST_IN_FILE; k++) {
-                found |= itsChunk != NOBODY && chunkOf(file, k) == itsChunk;
+                if (itsChunk != NOBODY && chunkOf(file, k) == itsChunk) {
+                    return true;
+                }
             }
-            return found;
+            return false;
         }
     }
 
@@ -1102,7 +1100,7 @@ public final class GreatChunks {
         }
 
         int able(int chunk) {
-            return good(chunk) & servers.upBits();
+            return good(chunk) & servers.upBits;
         }
 
         float load(int server) {
@@ -1265,7 +1263,7 @@ public final class GreatChunks {
         // -- chunks that come
 
         int placesForNew(int kind) {
-            int rest = servers.upBits();
+            int rest = servers.upBits;
             int bits = 0;
             int often = copiesWanted(kind);
             for (int turn = 0; turn < often && rest != 0; turn++) {
@@ -1397,7 +1395,7 @@ public final class GreatChunks {
             boolean allWrote = true;
             for (int s = 0; s < servers.many; s++) {
                 if (s != holder && isIn(bits, s)) {
-                    if (!servers.isUp[s]) {
+                    if (!servers.hasUp(s)) {
                         chunks.endLease(chunk);
                         allWrote = false;
                     } else if (servers.failsNow(s)) {
@@ -1512,7 +1510,7 @@ public final class GreatChunks {
         boolean lacksCopy(int chunk) {
             int bits = able(chunk);
             boolean hasGiver = bits != 0 && !chunks.isForgotten(chunk);
-            boolean hasTaker = (servers.upBits() & ~bits) != 0;
+            boolean hasTaker = (servers.upBits & ~bits) != 0;
             return hasGiver && hasTaker && Integer.bitCount(bits) < mostWanted(chunk);
         }
 
@@ -1529,7 +1527,7 @@ public final class GreatChunks {
         void addCopy(int chunk) {
             int bits = able(chunk);
             int giver = first(bits);
-            int taker = best(servers.upBits() & ~bits);
+            int taker = best(servers.upBits & ~bits);
             if (giver != NOBODY && taker != NOBODY) {
                 copies.layLike(taker, chunk, giver, chunk, copies.versionOf(giver, chunk));
             }
@@ -1570,13 +1568,13 @@ public final class GreatChunks {
         static long allCases(House house) {
             long cases = 1;
             for (int s = 0; s < house.servers.many; s++) {
-                cases *= house.servers.isUp[s] ? ALL_CASES : 1;
+                cases *= house.servers.hasUp(s) ? ALL_CASES : 1;
             }
             return cases;
         }
 
         static long readableCases(House house, int file, int p) {
-            int upBits = house.servers.upBits();
+            int upBits = house.servers.upBits;
             long cases = 0;
             for (int gone = 0; gone < 1 << MOST_SERVERS; gone++) {
                 if ((gone & ~upBits) == 0 && isReadableWithout(house, file, gone)) {
@@ -1599,7 +1597,7 @@ public final class GreatChunks {
         private static long casesOf(House house, int gone, int p) {
             long cases = 1;
             for (int s = 0; s < house.servers.many; s++) {
-                if (house.servers.isUp[s]) {
+                if (house.servers.hasUp(s)) {
                     cases *= isIn(gone, s) ? p : ALL_CASES - p;
                 }
             }
